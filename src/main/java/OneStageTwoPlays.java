@@ -177,8 +177,9 @@ public final class OneStageTwoPlays {
         if (next == NONE) {
             return NOT_NOW;
         }
+        changes.refresh(script);
         past.push(night);
-        int change = changeAhead(next);
+        int change = changes.between(night.last, next);
         int brought = night.perform(script, next, change);
         tell(next, change, brought);
         return night.now;
@@ -231,6 +232,7 @@ public final class OneStageTwoPlays {
                 return -1 - fault;
             }
         }
+        changes.refresh(script);
         past.hold(night);
         int place = 0;
         int done = 0;
@@ -549,6 +551,7 @@ public final class OneStageTwoPlays {
         if (n < 1 || n > MOST_DRAWS) {
             return NONE;
         }
+        changes.refresh(script);
         int drawn = seed;
         int performed = 0;
         for (int k = 0; k < n; k++) {
@@ -696,17 +699,13 @@ public final class OneStageTwoPlays {
         return Integer.bitCount(night.coming & script.scenesOf(script.of(scene, PLAY)));
     }
 
-    private int changeAhead(int scene) {
-        changes.refresh(script);
-        return changes.between(night.last, scene);
-    }
-
+    /** Asks for changes that are fresh. */
     private boolean performNext(int play) {
         int next = nextOf(play);
         if (next == NONE) {
             return false;
         }
-        night.perform(script, next, changeAhead(next));
+        night.perform(script, next, changes.between(night.last, next));
         return true;
     }
 
@@ -772,23 +771,16 @@ public final class OneStageTwoPlays {
         }
 
         int of(int scene, int what) {
-            int place = placeOf(scene, what);
+            int place = scene * SCENE_FIELDS + what;
             return place >= 0 && place < fields.length ? fields[place] : 0;
         }
 
         /** May go to a place behind the last SCENE, where a LINE is put together ahead of grow(). */
         void put(int scene, int what, int value) {
-            int place = placeOf(scene, what);
+            int place = scene * SCENE_FIELDS + what;
             if (place >= 0 && place < fields.length) {
                 fields[place] = value;
             }
-        }
-
-        private static int placeOf(int scene, int what) {
-            if (scene < 0 || scene >= MOST_SCENES || what < 0 || what >= SCENE_FIELDS) {
-                return NONE;
-            }
-            return scene * SCENE_FIELDS + what;
         }
 
         /** The SCENES that came (bits). */
@@ -1041,23 +1033,20 @@ public final class OneStageTwoPlays {
             return lines;
         }
 
-        @Override
         void begin() {
             step = AT_PLAY;
             line = script.size;
             lines = 0;
         }
 
-        @Override
         boolean mayEnd() {
             return step == BEHIND_CHEER;
         }
 
-        @Override
         boolean takes(int sign) {
             switch (step) {
                 case AT_PLAY: return takesPlay(sign);
-                case AT_MINUTES: return takesNumber(sign, '1', '9', MINUTES, 0);
+                case AT_MINUTES: return takesNumber(sign, '1', '9', MINUTES, '0');
                 case IN_PERSONS: return takesPerson(sign) || takesProp(sign) || takesMark(sign);
                 case IN_PROPS: return takesProp(sign) || takesMark(sign);
                 case AT_TOLD: return takesNumber(sign, 'a', 'h', TOLD, 'a');
@@ -1085,7 +1074,7 @@ public final class OneStageTwoPlays {
             if (sign < low || sign > high) {
                 return false;
             }
-            script.put(line, what, zero == 0 ? sign - '0' : sign - zero);
+            script.put(line, what, sign - zero);
             step++;
             return true;
         }
@@ -1128,7 +1117,7 @@ public final class OneStageTwoPlays {
         }
 
         private boolean takesCheer(int sign) {
-            if (!takesNumber(sign, '0', '9', CHEER, 0)) {
+            if (!takesNumber(sign, '0', '9', CHEER, '0')) {
                 return false;
             }
             line++;
@@ -1149,17 +1138,14 @@ public final class OneStageTwoPlays {
     private static final class ActReader extends Reader {
         private int open;
 
-        @Override
         void begin() {
             open = 0;
         }
 
-        @Override
         boolean mayEnd() {
             return open == 0;
         }
 
-        @Override
         boolean takes(int sign) {
             if (open == 'x') {
                 open = 0;
@@ -1196,7 +1182,6 @@ public final class OneStageTwoPlays {
         private int digits;
         private boolean wantsThing;
 
-        @Override
         void begin() {
             codeSize = 0;
             waitingSize = 0;
@@ -1206,7 +1191,6 @@ public final class OneStageTwoPlays {
             wantsThing = true;
         }
 
-        @Override
         boolean mayEnd() {
             if (wantsThing || depth > 0) {
                 return false;
@@ -1215,7 +1199,6 @@ public final class OneStageTwoPlays {
             return true;
         }
 
-        @Override
         boolean takes(int sign) {
             return wantsThing ? takesAhead(sign) : takesBehind(sign);
         }
@@ -1461,7 +1444,8 @@ public final class OneStageTwoPlays {
 
         private final Script script;
         private final int[] cost = new int[SIDE * MOST_SCENES];
-        private final int[] order = new int[2 * MOST_SCENES];
+        /** For each PLAY a row: AHEAD, then its SCENES. */
+        private final int[] order = new int[2 * SIDE];
         private final int[] values = new int[SIDE * SIDE * 2];
         private final int[] turns = new int[MOST_SCENES];
         private int turnsSize;
@@ -1471,6 +1455,10 @@ public final class OneStageTwoPlays {
         private int secondLimit;
         private int cutSet;
         private int cutMinutes;
+        private int cutCheer;
+        private int cutCount;
+        private int cutLimit;
+        private int leastChange;
 
         Loom(Script script) {
             this.script = script;
@@ -1494,11 +1482,13 @@ public final class OneStageTwoPlays {
 
         private int layPlay(int set, int play) {
             int own = set & script.scenesOf(play);
+            int base = play == 0 ? 0 : SIDE;
             int found = 0;
+            order[base] = AHEAD;
             for (int scene = 0; scene < MOST_SCENES; scene++) {
-                if ((own >> scene & 1) == 1 && found < MOST_SCENES) {
-                    order[(play == 0 ? 0 : MOST_SCENES) + found] = scene;
+                if ((own >> scene & 1) == 1) {
                     found++;
+                    order[base + found] = scene;
                 }
             }
             return found;
@@ -1512,43 +1502,32 @@ public final class OneStageTwoPlays {
             return k >= 0 && k < turns.length ? turns[k] : 0;
         }
 
-        private int sceneAt(int play, int k) {
-            if (k < 0 || k >= sizeOf(play) || k >= MOST_SCENES) {
-                return NONE;
-            }
-            return order[(play == 0 ? 0 : MOST_SCENES) + k];
-        }
-
         private int valueAt(int i, int j, int latest) {
-            int place = placeOf(i, j, latest);
+            int place = (i * SIDE + j) * 2 + latest;
             return place >= 0 && place < values.length ? values[place] : FAR;
         }
 
         private void put(int i, int j, int latest, int value) {
-            int place = placeOf(i, j, latest);
+            int place = (i * SIDE + j) * 2 + latest;
             if (place >= 0 && place < values.length) {
                 values[place] = value;
             }
         }
 
-        private static int placeOf(int i, int j, int latest) {
-            if (i < 0 || i >= SIDE || j < 0 || j >= SIDE) {
-                return NONE;
-            }
-            return (i * SIDE + j) * 2 + latest;
-        }
-
-        /** Minutes of the next SCENE of a PLAY with the change ahead of it. */
+        /** Minutes of the next SCENE of a PLAY (there is one) with the change ahead of it. */
         private int stepBy(int i, int j, int latest, int play) {
-            int ahead = sceneAt(latest, (latest == 0 ? i : j) - 1);
-            int from = ahead == NONE ? AHEAD : ahead;
-            int to = sceneAt(play, play == 0 ? i : j);
-            int place = from * MOST_SCENES + to;
-            return to != NONE && place >= 0 && place < cost.length ? cost[place] : FAR;
+            int ahead = latest == 0 ? i : SIDE + j;
+            int next = play == 0 ? i + 1 : SIDE + j + 1;
+            if (ahead < 0 || ahead >= order.length || next < 0 || next >= order.length) {
+                return FAR;
+            }
+            int place = order[ahead] * MOST_SCENES + order[next];
+            return place >= 0 && place < cost.length ? cost[place] : FAR;
         }
 
         private int valueBehind(int i, int j, int play) {
-            return play == 0 ? valueAt(i + 1, j, 0) : valueAt(i, j + 1, 1);
+            int place = play == 0 ? ((i + 1) * SIDE + j) * 2 : (i * SIDE + j + 1) * 2 + 1;
+            return place >= 0 && place < values.length ? values[place] : FAR;
         }
 
         private int restBy(int i, int j, int latest, int play) {
@@ -1729,37 +1708,62 @@ public final class OneStageTwoPlays {
 
         /** The CHEER that is lost; cutSet and cutMinutes tell the rest. */
         int findCut(int coming, int limit) {
+            cutLimit = limit;
             cutSet = coming;
             cutMinutes = 0;
-            int lost = script.sumOf(coming, CHEER);
-            int fewest = Integer.bitCount(coming);
-            for (int set = 0; set < coming; set++) {
-                if ((set & ~coming) == 0) {
-                    int cheer = script.sumOf(set, CHEER);
-                    int many = Integer.bitCount(set);
-                    boolean better = cheer < lost || cheer == lost && many < fewest;
-                    if (better && staysWithin(coming & ~set, limit)) {
-                        cutSet = set;
-                        lost = cheer;
-                        fewest = many;
+            cutCheer = script.sumOf(coming, CHEER);
+            cutCount = Integer.bitCount(coming);
+            leastChange = leastChangeAmong(coming);
+            tryCuts(coming, MOST_SCENES - 1, 0, 0, -leastChange);
+            return cutCheer;
+        }
+
+        private int leastChangeAmong(int coming) {
+            int least = LONGEST_CHANGE;
+            for (int other = 0; other < MOST_SCENES; other++) {
+                int minutes = script.of(other, MINUTES);
+                for (int one = 0; one < MOST_SCENES; one++) {
+                    int bits = 1 << one | 1 << other;
+                    if (one != other && (coming & bits) == bits) {
+                        least = Math.min(least, cost[one * MOST_SCENES + other] - minutes);
                     }
                 }
             }
-            return lost;
+            return least;
         }
 
-        private boolean staysWithin(int set, int limit) {
-            // changes only make it longer, and adding minutes is far cheaper than a weave
-            if (script.sumOf(set, MINUTES) > limit) {
-                return false;
+        /**
+         * Keeps or cuts the SCENES from this one down to 0, such sets first that are less.
+         * What is kept takes at least these minutes, however it is woven.
+         */
+        private void tryCuts(int coming, int scene, int set, int cheer, int minutes) {
+            int many = Integer.bitCount(set);
+            boolean better = cheer < cutCheer || cheer == cutCheer && many < cutCount;
+            if (!better || minutes > cutLimit) {
+                return;
             }
-            lay(set);
-            int minutes = shortest();
-            if (minutes > limit) {
-                return false;
+            if (scene < 0) {
+                takeCut(coming, set, cheer);
+                return;
             }
-            cutMinutes = minutes;
-            return true;
+            int bit = 1 << scene;
+            if ((coming & bit) == 0) {
+                tryCuts(coming, scene - 1, set, cheer, minutes);
+                return;
+            }
+            tryCuts(coming, scene - 1, set, cheer, minutes + leastChange + script.of(scene, MINUTES));
+            tryCuts(coming, scene - 1, set | bit, cheer + script.of(scene, CHEER), minutes);
+        }
+
+        private void takeCut(int coming, int set, int cheer) {
+            lay(coming & ~set);
+            int minutes = fillBack(false);
+            if (minutes <= cutLimit) {
+                cutSet = set;
+                cutMinutes = minutes;
+                cutCheer = cheer;
+                cutCount = Integer.bitCount(set);
+            }
         }
     }
 
