@@ -552,6 +552,8 @@ public final class OneStageTwoPlays {
             return NONE;
         }
         changes.refresh(script);
+        // a question: the evening is drawn on the night itself, which then is put back as it was
+        past.hold(night);
         int drawn = seed;
         int performed = 0;
         for (int k = 0; k < n; k++) {
@@ -563,8 +565,10 @@ public final class OneStageTwoPlays {
                 performed++;
             }
         }
+        int then = night.now;
         tell(performed, night.cheersIn(0) + night.cheersIn(1));
-        return night.now;
+        past.putHeldInto(night);
+        return then;
     }
 
     // ---- kept
@@ -941,6 +945,10 @@ public final class OneStageTwoPlays {
 
         void pushHeld() {
             push(held);
+        }
+
+        void putHeldInto(Night night) {
+            night.copyFrom(held);
         }
 
         int popInto(Night night) {

@@ -49,6 +49,13 @@ public final class PromisesTest {
         }
     }
 
+    private static void dueText(String what, String got, String want) {
+        if (!got.equals(want)) {
+            wrong++;
+            System.out.println(what + ": " + got + ", due is " + want);
+        }
+    }
+
     private static void dueTrue(String what, boolean got) {
         due(what, got ? 1 : 0, 1);
     }
@@ -904,21 +911,34 @@ public final class PromisesTest {
         // 12345 tells 0: scene 0 is played
         due("one draw of seed 0", x.years(0, 1), 5);
         dueRow("one draw of seed 0", x, 1, 6);
-        due("THE LAST one", x.count(2), 0);
-        due("it can't be undone", x.count(8), 0);
+        due("NOW is as it was", x.count(1), 0);
+        due("THE LAST one is as it was", x.count(2), -1);
+        due("the same again, from the night as it stands", x.years(0, 1), 5);
+        dueRow("the same again", x, 1, 6);
         for (int seed = 0; seed < 30; seed++) {
-            dueYears(seed * 7919 - 60000, 1 + seed % 4);
+            dueYears("", seed * 7919 - 60000, 1 + seed % 4);
+            dueYears("1w3", seed * 104729 + 11, 1 + seed % 6);
         }
-        dueYears(77, 60);
-        OneStageTwoPlays none = fresh();
-        int now = none.years(5, 60);
-        due("no scenes: minutes alone", none.count(1), now);
-        dueRow("no scenes", none, 0, 0);
+        dueYears("", 77, 60);
+        dueYears("0xdw2", 77, 60);
+        yearsWithoutScenes();
+        yearsBesideUndoAndKept();
     }
 
-    private static void dueYears(int seed, int n) {
+    private static void yearsWithoutScenes() {
+        OneStageTwoPlays none = fresh();
+        due("nine draws of seed 0", none.years(0, 9), 1);
+        dueRow("no scenes", none, 0, 0);
+        due("NOW is as it was", none.count(1), 0);
+        due("one draw of seed 0", none.years(0, 1), 0);
+    }
+
+    /** The evening is drawn behind what was done ahead of it. */
+    private static void dueYears(String evening, int seed, int n) {
         OneStageTwoPlays y = with(FOUR);
         OneStageTwoPlays z = with(FOUR);
+        text(y, evening).evening();
+        text(z, evening).evening();
         int r = seed;
         int played = 0;
         for (int k = 0; k < n; k++) {
@@ -934,10 +954,49 @@ public final class PromisesTest {
                 played += y.plays(play) >= 0 ? 1 : 0;
             }
         }
-        due("years(" + seed + ", " + n + ")", z.years(seed, n), y.count(1));
-        dueRow("years(" + seed + ", " + n + ")", z, played, y.count(6));
-        due("played then", z.count(4), y.count(4));
-        due("THE LAST one then", z.count(2), y.count(2));
+        String ahead = nightOf(z);
+        String call = "years(" + seed + ", " + n + ") behind '" + evening + "'";
+        due(call, z.years(seed, n), y.count(1));
+        dueRow(call, z, played, y.count(6));
+        dueText(call + ": the night is as it was", nightOf(z), ahead);
+    }
+
+    private static void yearsBesideUndoAndKept() {
+        OneStageTwoPlays x = with(FOUR);
+        String first = nightOf(x);
+        x.keep(0);
+        x.plays(1);
+        String second = nightOf(x);
+        x.pause(4);
+        String third = nightOf(x);
+        dueTrue("minutes go by in it", x.years(3, 60) > x.count(1));
+        dueText("behind years()", nightOf(x), third);
+        due("what can be undone", x.undo(), 1);
+        dueText("undone behind years()", nightOf(x), second);
+        x.years(12, 60);
+        due("what can be undone", x.undo(), 0);
+        dueText("all undone", nightOf(x), first);
+        x.plays(0);
+        x.years(9, 60);
+        dueTrue("kept ahead of years()", x.again(0));
+        dueText("again behind years()", nightOf(x), first);
+    }
+
+    /** All that the face tells of a night, but for the ROW and THE TEXT. */
+    private static String nightOf(OneStageTwoPlays x) {
+        StringBuilder out = new StringBuilder();
+        for (int what = 0; what <= 8; what++) {
+            out.append(what).append(':').append(x.count(what)).append(' ');
+        }
+        for (int play = 0; play <= 1; play++) {
+            for (int what = 0; what <= 6; what++) {
+                out.append(play).append('.').append(what).append(':').append(x.play(play, what)).append(' ');
+            }
+        }
+        for (int scene = 0; scene < x.count(0); scene++) {
+            out.append('s').append(scene).append(':').append(x.scene(scene, 7)).append(' ');
+        }
+        return out.toString();
     }
 
     // 42, 43

@@ -213,6 +213,11 @@ public final class SlowStageTest {
             for (int what = 0; what <= 11; what++) {
                 compare("count(" + what + ") behind " + name, "" + real.count(what), "" + model.count(what));
             }
+            for (int k = 0; k < 4; k++) {
+                int[] asked = {k / 2, 3 + k % 2};
+                String told = Arrays.toString(asked);
+                compare("play" + told + " behind " + name, outcome(real, "play", asked), outcome(model, "play", asked));
+            }
         }
 
         void compare(String what, String got, String due) {
@@ -1130,6 +1135,7 @@ public final class SlowStageTest {
 
         public int years(int seed, int n) {
             if (n < 1 || n > 60) return -1;
+            State ahead = s.copy();
             int r = seed;
             int played = 0;
             for (int k = 0; k < n; k++) {
@@ -1148,7 +1154,9 @@ public final class SlowStageTest {
                 }
             }
             tell(played, s.cheers[0] + s.cheers[1]);
-            return s.now;
+            int then = s.now;
+            s = ahead;
+            return then;
         }
 
         public boolean keep(int i) {
