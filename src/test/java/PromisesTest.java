@@ -223,6 +223,7 @@ public final class PromisesTest {
         due("76 signs, open end", text(fresh(), full).scenes(), -77);
         due("80 signs, all good", text(fresh(), full + "01=1").scenes(), -77);
         due("80 signs, bad behind 76", text(fresh(), full + "xxxx").scenes(), -77);
+        due("80 signs, bad behind 77", text(fresh(), full + "0xxx").scenes(), -77);
         due("80 signs, bad within", text(fresh(), "x" + full.substring(1) + "01=1").scenes(), -1);
         due("80 signs, bad at 75", text(fresh(), full.substring(0, 75) + "x01=1").scenes(), -76);
         String whole = "01AB=1;" + times("01ABC=1;", 8) + "01A=1";
@@ -280,6 +281,7 @@ public final class PromisesTest {
         dueRule(times("o+", 19) + "-o", 0);
         dueRule(times("o+", 20) + "o", -41);
         dueRule(times("o+", 20) + "xxxx", -41);
+        dueRule(times("o+", 20) + "oxxx", -41);
         dueRule("x" + times("o+", 20), -1);
         dueRule("(" + times("o+", 19) + "o", -41);
         dueRule(times("1", 41), -4);
@@ -308,6 +310,10 @@ public final class PromisesTest {
         dueChange("(2+3)*4", 20);
         dueChange("40/5/2", 4);
         dueChange("40/5*2", 16);
+        dueChange("7*3/2", 10);
+        dueChange("7/2*3", 9);
+        dueChange("2*7/2*3", 21);
+        dueChange("20+-7*3/2", 10);
         dueChange("7/2", 3);
         dueChange("0-(-7/2)", 3);
         dueChange("-7/2+9", 6);
@@ -495,6 +501,7 @@ public final class PromisesTest {
         dueEvening(times("w1", 30), 30, 0, 30);
         dueEvening(times("w1", 30) + "0", -61);
         dueEvening(times("w1", 30) + "z", -61);
+        dueEvening(times("w1", 30) + "0z", -61);
         dueEvening("0" + times("w1", 29) + "w", -61);
         dueEvening("0" + times("w1", 29) + "w1", -61);
         dueEvening("z" + times("w1", 30), -1);
@@ -694,6 +701,32 @@ public final class PromisesTest {
         text(free, "9").rule();
         due("behind THE LAST one", free.cuts(10), 5);
         dueRow("behind THE LAST one", free, 2, 0);
+        for (int one = 0; one < 12; one++) {
+            for (int other = 0; other < 12; other++) {
+                if (one != other) {
+                    cutsOfTwo(one, other);
+                }
+            }
+        }
+    }
+
+    /** All are cut but two, which take 11 minutes in one order and 19 in the other. */
+    private static void cutsOfTwo(int one, int other) {
+        StringBuilder lines = new StringBuilder();
+        for (int k = 0; k < 12; k++) {
+            lines.append(k == 0 ? "" : ";").append(k == one ? "01=9" : k == other ? "19=9" : "05=9");
+        }
+        OneStageTwoPlays x = with(lines.toString(), "l");
+        for (int k = 0; k < 12; k++) {
+            if (k != one && k != other) {
+                x.cut(k);
+            }
+        }
+        String call = "cuts() of " + one + " ahead of " + other;
+        due(call, x.cuts(11), 0);
+        dueRow(call, x, 0, 11);
+        due(call + ", a minute less", x.cuts(10), 9);
+        dueRow(call + ", a minute less", x, one < other ? 1 << one : 1 << other, one < other ? 9 : 1);
     }
 
     // 24, 25, 26
