@@ -72,6 +72,10 @@ public final class EdgesOfQuestionsTest extends Checks {
             due("change(" + scene + ", " + scene + ")", x.change(scene, scene), -1);
         }
         due("change(0, 0) of no SCENES", fresh().change(0, 0), -1);
+        due("change(0, 2), ahead of more SCENES", x.change(0, 2), -1);
+        text(x, "01F4=0").scenes();
+        due("change(0, 2), behind them", x.change(0, 2), 1 + 3);
+        dueRow("change(0, 2)", x, 32, 7);
     }
 
     // ---- 16
@@ -190,6 +194,20 @@ public final class EdgesOfQuestionsTest extends Checks {
         dueBoth(with("09=0;19=0;09=0", "86"), 199, 199, 0, 0, 1);
         dueBoth(with("09=0;19=0;09=0", "86"), 199, 9, 1, 0, 0);
         dueBoth(with("09=0;19=0;09=0", "86"), 199, 104, 0, 1, 0);
+        OneStageTwoPlays pairs = with("01=0;01=0;11=0;11=0", "0");
+        dueBoth(pairs, 4, 4, 0, 0, 1, 1);
+        dueBoth(pairs, 2, 4, 0, 0, 1, 1);
+        dueBoth(pairs, 4, 3, 0, 1, 1, 0);
+        dueBoth(pairs, 4, 2, 1, 1, 0, 0);
+        dueBoth(pairs, 3, 4, 0, 0, 1, 1);
+        dueNotBoth(pairs, 3, 3);
+        dueNotBoth(pairs, 4, 1);
+        dueNotBoth(pairs, 1, 4);
+        OneStageTwoPlays parted = with("01=0;01=0;11=0;11=0", "o");
+        dueBoth(parted, 2, 5, 0, 0, 1, 1);
+        dueBoth(parted, 6, 4, 0, 1, 1, 0);
+        dueBoth(parted, 5, 4, 1, 1, 0, 0);
+        dueNotBoth(parted, 4, 4);
         says(18, "nothing for 0");
         dueNotBoth(x, 5, 7);
         dueNotBoth(x, 4, 8);
@@ -235,6 +253,18 @@ public final class EdgesOfQuestionsTest extends Checks {
         dueWithin(with("09=0;19=0;09=0", "86"), 199, 3, 199);
         dueWithin(with("09=0;19=0;09=0", "86"), 198, 2, 104);
         dueWithin(with("09=0;19=0;09=0", "87"), 199, 2, 105);
+        OneStageTwoPlays four = with("05=0;13=0;04=0;12=0", "0");
+        int[] soonest = {0, 3, 5, 10, 14};
+        for (int n = 0; n <= 20; n++) {
+            int most = n < 3 ? 0 : n < 5 ? 1 : n < 10 ? 2 : n < 14 ? 3 : 4;
+            dueWithin(four, n, most, soonest[most]);
+        }
+        dueWithin(with("01=0;09=0;12=0;19=0", "0"), 3, 2, 3);
+        dueWithin(with("01=0;09=0;12=0;19=0", "0"), 12, 3, 12);
+        dueWithin(with("11=0;12=0;13=0", "0"), 6, 3, 6);
+        dueWithin(with("11=0;12=0;13=0", "0"), 5, 2, 3);
+        dueWithin(with("05=0;11=0;11=0", "0"), 7, 3, 7);
+        dueWithin(with("15=0;01=0;01=0", "0"), 7, 3, 7);
         says(19, "right behind THE LAST one, as a WEAVE begins");
         OneStageTwoPlays behind = with("01=0;05=0;12=0", "9");
         behind.plays(0);
@@ -370,6 +400,9 @@ public final class EdgesOfQuestionsTest extends Checks {
         dueCuts(twelve, 100, 99, 2047, 1);
         dueCuts(twelve, 101, 90, 1023, 101);
         dueCuts(twelve, 199, 90, 1023, 101);
+        OneStageTwoPlays last = with("02=9;".repeat(11) + "02=8", "0");
+        dueCuts(last, 23, 8, 2048, 22);
+        dueCuts(with("02=8;" + "02=9;".repeat(10) + "02=9", "0"), 23, 8, 1, 22);
         OneStageTwoPlays behind = with("01=9;11=9", "50");
         behind.plays(0);
         dueCuts(behind, 51, 0, 0, 51);
@@ -414,6 +447,9 @@ public final class EdgesOfQuestionsTest extends Checks {
         dueClash(with("01>a=9;01<a=9"), 0, 0, 0);
         dueClash(with("11>a=9;01<a=9"), 2, 1, 5);
         dueClash(with("01>h=9;01<g=9"), 2, 1, 5);
+        dueClash(with("11>a=9;11<a=9"), 0, 0, 0);
+        dueClash(with("01>a=9;01>a=9;01<a=9"), 0, 0, 0);
+        dueClash(with("11>a=9;11>a=9;11<a=9"), 0, 0, 0);
         OneStageTwoPlays x = with("01>a=1;01<a=2;11<a=3");
         dueClash(x, 4, 1, 2);
         x.cut(0);
@@ -499,6 +535,12 @@ public final class EdgesOfQuestionsTest extends Checks {
         dueCheers(with("01>a<a=9"), 0, 4, 4);
         dueCheers(with("01>a<b=3;01>b<a=9"), 0, 1 + 9, 1 + 9);
         dueCheers(with("01>a<b=9;01>b<a=3"), 0, 4 + 3, 9 + 1);
+        dueCheers(with("01>a=1;01>a=1;01<a=9"), 0, 11, 11);
+        OneStageTwoPlays two = with("01=9;01=9;11=1;11<a=1");
+        dueCheers(two, 0, 18, 18);
+        dueCheers(two, 1, 1, 1);
+        two.cut(0);
+        dueCheers(two, 0, 9, 9);
         OneStageTwoPlays x = with("01>a=1;01<a=9;01<b=8");
         x.cut(0);
         dueCheers(x, 0, 4 + 4, 4 + 4);
@@ -761,6 +803,12 @@ public final class EdgesOfQuestionsTest extends Checks {
         due("fits()", x.fits(), 3);
         due("bow(5, 0) then", x.bow(5, 0), 1);
         due("fits(), what was seen of others is gone", x.fits(), 3);
+        x.bow(0, 1);
+        x.bow(1, 1);
+        due("forget() of three", x.forget(), 3);
+        due("fits() then", x.fits(), 3);
+        due("bow(1, 0) then", x.bow(1, 0), 1);
+        due("fits(), who bowed is forgotten", x.fits(), 3);
         due("forget() of a new one", fresh().forget(), 0);
     }
 

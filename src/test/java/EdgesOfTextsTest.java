@@ -22,6 +22,7 @@ public final class EdgesOfTextsTest extends Checks {
         laws();
         signsOfEvenings();
         lengthsOfEvenings();
+        readAnew();
         finish("edges of texts");
     }
 
@@ -298,6 +299,8 @@ public final class EdgesOfTextsTest extends Checks {
         signsBehind(RULE, "o<(p<q)", SUMS, "");
         signsBehind(RULE, "(o)<(p", JOINTS + ")", ")");
         signsBehind(RULE, "((o<p)", JOINTS + ")", ")");
+        signsBehind(RULE, "(o<p)+(q", JOINTS + ")", ")");
+        signsBehind(RULE, "(o<p)*(q=m)", JOINTS, "");
         says(TERMS, "a NUMBER of 1 to 3 digits");
         signsBehind(RULE, "1", DIGITS + JOINTS, DIGITS);
         signsBehind(RULE, "00", DIGITS + JOINTS, DIGITS);
@@ -374,6 +377,9 @@ public final class EdgesOfTextsTest extends Checks {
         dueWorth("2*3<1+4", 0);
         dueWorth("0-1<0", 1);
         dueWorth("5+(1<2)", 6);
+        dueWorth("5+(2<1)", 5);
+        dueWorth("5+(1>2)", 5);
+        dueWorth("5+(1=2)", 5);
         says(TERMS, "then + - (from the left)");
         dueWorth("9-3-2", 4);
         dueWorth("9-3+2", 8);
@@ -554,6 +560,39 @@ public final class EdgesOfTextsTest extends Checks {
             dueTrueBelow("evening() of " + bad, text(x, bad).evening());
             dueText("the night behind " + bad, nightOf(x), ahead);
             dueRow("the ROW behind " + bad, x, 8);
+        }
+    }
+
+    // ---- one text behind another
+
+    private static void readAnew() {
+        says(TERMS, "Refused calls answer NONE, or false, and change nothing but THE TEXT");
+        String[] badRules = {"((((", "((((o)", "o<", "(o<p", "o<p<", "(((o=p", "9+99+", "1000", "-", "9+", "z", times("-", 60)};
+        String[] goodRules = {"((((7))))", "(1<2)+(3=3)+5", "7", "1=1", "--7", "900/100-2"};
+        int[] worth = {7, 7, 7, 1, 7, 7};
+        for (String bad : badRules) {
+            for (int k = 0; k < goodRules.length; k++) {
+                OneStageTwoPlays x = with("01=0;02=0");
+                text(x, bad).rule();
+                due("rule() of " + goodRules[k] + " behind " + bad, text(x, goodRules[k]).rule(), 0);
+                due("change(0, 1) by it", x.change(0, 1), worth[k]);
+                text(x, bad).law();
+                due("law() of it behind " + bad, text(x, goodRules[k]).law(), 0);
+            }
+        }
+        for (String bad : new String[] {"x", "w", "0x", "w1w", "xz", "z", times("w1", 31)}) {
+            OneStageTwoPlays x = with("01=0;02=0");
+            dueTrueBelow("evening() of " + bad, text(x, bad).evening());
+            due("evening() of w1xb behind it", text(x, "w1xb").evening(), 2);
+            dueTrueBelow("evening() of " + bad, text(x, bad).evening());
+            due("evening() of 0 behind it", text(x, "0").evening(), 1);
+        }
+        for (String bad : new String[] {"0", "01", "19F4", "19>", "19>a", "19<", "19<a", "19=", "01=1;", "z"}) {
+            OneStageTwoPlays x = fresh();
+            dueTrueBelow("scenes() of " + bad, text(x, bad).scenes());
+            due("scenes() of two behind it", text(x, "01=0;12A1>a<a=1").scenes(), 2);
+            dueScene(x, 0, 0, 1, 0, 0, -1, -1, 0, 0);
+            dueScene(x, 1, 1, 2, 1, 1, 0, 0, 1, 0);
         }
     }
 }

@@ -309,6 +309,12 @@ public final class EdgesOfTheNightTest extends Checks {
         cut.plays(1);
         due("house 1 KNOWS h", cut.play(1, 3), 128);
         due("house 0 does not", cut.play(0, 3), 0);
+        OneStageTwoPlays twice = with("01>a=1;01>a=1;01<a=8;11>h=1;11>h=1;11<h=8");
+        due("all of PLAY 0, then of 1", text(twice, "000111").evening(), 6);
+        due("told twice, house 0", twice.play(0, 3), 1);
+        due("told twice, house 1", twice.play(1, 3), 128);
+        due("CHEERS of house 0", twice.play(0, 4), 10);
+        due("CHEERS of house 1", twice.play(1, 4), 10);
     }
 
     // ---- 10, 11, 12
@@ -748,6 +754,13 @@ public final class EdgesOfTheNightTest extends Checks {
         x.undo();
         x.undo();
         due("count(2)", x.count(2), -1);
+        says(44, "6: CHEERS of both houses");
+        OneStageTwoPlays loud = with("01=3;11=5");
+        due("count(6)", loud.count(6), 0);
+        loud.plays(1);
+        due("count(6) of PLAY 1's", loud.count(6), 5);
+        loud.plays(0);
+        due("count(6) of both", loud.count(6), 8);
         says(44, "7: PERSONS seen (bits)");
         due("count(7)", x.count(7), 0);
         x.bow(0, 0);

@@ -17,7 +17,7 @@ public final class SlowStageTest {
     private static int wrong = 0;
 
     public static void main(String[] args) {
-        int runs = args.length > 0 ? Integer.parseInt(args[0]) : 1500;
+        int runs = args.length > 0 ? Integer.parseInt(args[0]) : 2500;
         for (int run = 0; run < runs && wrong < 10; run++) {
             new Run(run).go();
         }
@@ -25,8 +25,11 @@ public final class SlowStageTest {
         System.exit(wrong == 0 ? 0 : 1);
     }
 
-    /** One run of at most 512 calls. */
+    /** One run of at most 512 calls, those counted by which the object is looked at. */
     private static final class Run {
+        static final int MOST_STEPS = 200;
+        /** The longest step feeds a text of 21 calls, each looked at by one more, and looks at all by 31. */
+        static final int LAST_STEP = 400;
         final int seed;
         final Random random;
         final OneStageTwoPlays real = new OneStageTwoPlays();
@@ -43,10 +46,10 @@ public final class SlowStageTest {
 
         void go() {
             int before = wrong;
-            int steps = 60;
-            for (int k = 0; k < steps && calls < 500 && wrong == before; k++) {
+            for (int k = 0; k < MOST_STEPS && calls < LAST_STEP && wrong == before; k++) {
                 step();
             }
+            look("the end");
         }
 
         int pick(int low, int high) {
@@ -117,6 +120,7 @@ public final class SlowStageTest {
             int kind = random.nextInt(5);
             if (kind == 0 || kind == 1) {
                 int least = model.weave();
+                calls++;
                 real.weave();
                 return least - pick(-1, kind == 0 ? 3 : 20);
             }
@@ -216,15 +220,28 @@ public final class SlowStageTest {
             String due = outcome(model, name, a);
             log.append("-> ").append(due).append('\n');
             compare(name, got, due);
-            compare("ROW behind " + name, rows(real), rows(model));
-            for (int what = 0; what <= 11; what++) {
-                compare("count(" + what + ") behind " + name, "" + real.count(what), "" + model.count(what));
+            if (name.equals("sign") || name.equals("end")) {
+                lookAt(10, name);
+                return;
             }
+            calls += model.count(9) + 3;
+            compare("ROW behind " + name, rows(real), rows(model));
+            if (random.nextInt(4) == 0) look(name);
+        }
+
+        void look(String behind) {
+            for (int what = 0; what <= 11; what++) lookAt(what, behind);
             for (int k = 0; k < 4; k++) {
+                calls++;
                 int[] asked = {k / 2, 3 + k % 2};
                 String told = Arrays.toString(asked);
-                compare("play" + told + " behind " + name, outcome(real, "play", asked), outcome(model, "play", asked));
+                compare("play" + told + " behind " + behind, outcome(real, "play", asked), outcome(model, "play", asked));
             }
+        }
+
+        void lookAt(int what, String behind) {
+            calls++;
+            compare("count(" + what + ") behind " + behind, "" + real.count(what), "" + model.count(what));
         }
 
         void compare(String what, String got, String due) {
