@@ -94,6 +94,7 @@ public final class EdgesOfQuestionsTest extends Checks {
         says(16, "of as short ones the least row");
         dueWeave(with("11=0;01=0;11=0", "0"), 3, 0, 1, 1);
         dueWeave(with("01=0;11=0", "o"), 3, 0, 1);
+        says(TERMS, "Rows of numbers are compared from the first on");
         dueWeave(with("01=0;01=0;11=0;11=0", "(o=0)*9"), 4, 0, 1, 0, 1);
         says(TERMS, "those of each PLAY by their numbers, right behind THE LAST one");
         OneStageTwoPlays x = with("01=0;01=0;11=0", BRIDGE);
@@ -208,6 +209,21 @@ public final class EdgesOfQuestionsTest extends Checks {
         dueBoth(parted, 6, 4, 0, 1, 1, 0);
         dueBoth(parted, 5, 4, 1, 1, 0, 0);
         dueNotBoth(parted, 4, 4);
+        dueBoth(with("01=0;01=0;11=0;11=0", BRIDGE), 3, 4, 0, 1, 0, 1);
+        dueBoth(with("01=0;01=0;11=0;11=0", BRIDGE), 4, 3, 1, 0, 1, 0);
+        // what was found of more SCENES must not show in what is found of fewer
+        OneStageTwoPlays fewer = with("01=0;".repeat(6) + "11=0;".repeat(5) + "11=0", "9");
+        fewer.weaves();
+        fewer.both(199, 199);
+        fewer.within(199);
+        text(fewer, "xbxcxdxexfxhxixjxkxl").evening();
+        dueNotBoth(fewer, 10, 10);
+        dueBoth(fewer, 1, 11, 0, 1);
+        dueBoth(fewer, 11, 1, 1, 0);
+        dueNotBoth(fewer, 0, 199);
+        dueNotBoth(fewer, 199, 0);
+        dueWeave(fewer, 11, 0, 1);
+        dueWithin(fewer, 10, 1, 1);
         says(18, "nothing for 0");
         dueNotBoth(x, 5, 7);
         dueNotBoth(x, 4, 8);
@@ -739,6 +755,15 @@ public final class EdgesOfQuestionsTest extends Checks {
             due("rests(" + v + ")", x.rests(v), want);
             dueRow("rests(" + v + ")", x, v / 2, v - v / 2);
         }
+        says(34, "0 at least");
+        // both claim the one coin: neither has any, and neither would have more by claiming none
+        due("rests(1)", x.rests(1), 3);
+        says(34, "else each has half of v (cut)");
+        due("rests(3)", x.rests(3), 2);
+        dueRow("rests(3)", x, 1, 2);
+        says(34, "Pairs of claims by which neither would have more by another one alone");
+        due("rests(0)", x.rests(0), 1);
+        dueRow("rests(0)", x, 0, 0);
         says(34, "NONE: another v");
         for (int v : new int[] {-1, 21, 22, LOWEST, HIGHEST}) {
             due("rests(" + v + ")", x.rests(v), -1);
@@ -757,6 +782,14 @@ public final class EdgesOfQuestionsTest extends Checks {
             dueRow("lamps(" + n + ")", x, takes[same]);
         }
         due("lamps(40) of a new one", fresh().lamps(40), 100);
+        says(35, "till none is left");
+        x.lamps(1);
+        dueRow("lamps(1)", x, 1);
+        x.lamps(2);
+        dueRow("lamps(2)", x, 1);
+        says(35, "who takes the last one pays 2 coins to the other one");
+        due("lamps(1)", x.lamps(1), 100 + 1 - 2 - 2);
+        due("lamps(2)", x.lamps(2), 100 + 1 + 2 + 2 - 1);
         says(35, "of as good ones the fewest");
         x.lamps(10);
         dueRow("lamps(10)", x, 1);
@@ -782,6 +815,13 @@ public final class EdgesOfQuestionsTest extends Checks {
         due("bow(0, 1)", x.bow(0, 1), 1);
         due("fits()", x.fits(), 1);
         due("count(7)", x.count(7), 1);
+        says(36, "whether he bowed (is 1) or not (0)");
+        due("bow(5, 0)", x.bow(5, 0), 2);
+        due("fits()", x.fits(), 1);
+        due("bow(5, 1)", x.bow(5, 1), 2);
+        due("fits()", x.fits(), 0);
+        x.forget();
+        due("bow(0, 1)", x.bow(0, 1), 1);
         says(36, "Refused: others");
         for (int person : NO_PERSONS) {
             due("bow(" + person + ", 0)", x.bow(person, 0), -1);

@@ -695,7 +695,11 @@ public final class EdgesOfTheNightTest extends Checks {
         due("again(0)", x.again(0), true);
         dueText("the night then", nightOf(x), none);
         due("again(1)", x.again(1), true);
-        dueText("the night then", nightOf(x), some.replaceFirst("^(\\S+ \\S+ \\S+ \\S+ \\S+ \\S+ \\S+ \\S+) \\S+", "$1 0"));
+        dueText("the night then", nightOf(x), some);
+        says(43, "They are as they were kept under a number");
+        x.pause(2);
+        due("again(1), once more", x.again(1), true);
+        dueText("the night then", nightOf(x), some);
         due("keep(0), once more", x.keep(0), true);
         x.pause(1);
         due("again(0), as it was kept last", x.again(0), true);
@@ -766,6 +770,16 @@ public final class EdgesOfTheNightTest extends Checks {
         x.bow(0, 0);
         x.bow(5, 1);
         due("count(7)", x.count(7), 33);
+        says(44, "8: what can be undone, 9: numbers of the ROW");
+        OneStageTwoPlays few = with(SIX_EACH);
+        due("count(8)", few.count(8), 0);
+        due("count(9)", few.count(9), 0);
+        for (int k = 0; k < 15; k++) {
+            few.pause(1);
+        }
+        few.weave();
+        due("count(8)", few.count(8), 12);
+        due("count(9)", few.count(9), 12);
         says(44, "10: signs of THE TEXT");
         due("count(10)", x.count(10), 0);
         for (int k = 0; k < 25; k++) {

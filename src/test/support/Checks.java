@@ -128,12 +128,14 @@ abstract class Checks {
 
     /** All that can be seen of an object without a call that tells a ROW; which signs THE TEXT has aside. */
     static String sightOf(OneStageTwoPlays x) {
-        return nightOf(x) + scriptOf(x) + "row " + Arrays.toString(rowOf(x)) + " signs " + x.count(10);
+        return nightOf(x) + scriptOf(x) + "row " + Arrays.toString(rowOf(x)) + " signs " + x.count(10)
+                + " to be undone " + x.count(8);
     }
 
+    /** What can be undone aside. */
     static String nightOf(OneStageTwoPlays x) {
         StringBuilder out = new StringBuilder();
-        for (int what = 0; what <= 8; what++) {
+        for (int what = 0; what <= 7; what++) {
             out.append(x.count(what)).append(' ');
         }
         for (int play = 0; play <= 1; play++) {
